@@ -54,10 +54,10 @@ public final class ChoirStalls {
     private static final Sign[] SIGNS = Sign.values();
 
     private final Row tape = new Row(TAPE_ROOM);
-    private final ListReader reader = new ListReader(new Tokens(tape));
     private Told told = new Told();
     // Read into ahead of being told, so that a list with an error leaves all as it is.
     private Told draft = new Told();
+    private final ListReader reader = new ListReader(new Tokens(tape), draft);
     private final Choir now = new Choir(told);
     // Lives through days that are only thought of; made once and used again.
     private final Choir later = new Choir(told);
@@ -733,14 +733,15 @@ public final class ChoirStalls {
      */
     private static final class ListReader {
         private final Tokens tokens;
-        private Told draft = null;
+        private Told draft;
         private int found = NONE;
         private int error = 0;
         private int errorToken = NONE;
         private int errorPlace = NONE;
 
-        ListReader(Tokens tokens) {
+        ListReader(Tokens tokens, Told draft) {
             this.tokens = tokens;
+            this.draft = draft;
         }
 
         int read(int bytes, Told into) {
