@@ -212,6 +212,12 @@ public final class DaysTest {
         Check.same("not less than 0", x.stall(0, 2), 0);
         Check.same("none for a stall without a beast", x.stall(1, 2), 0);
         Check.same("mean of nothing", x.mean(), 0.0);
+        ChoirStalls y = Check.taught("beast b grim 1 fine 1; carver c skill 2 pace 1; stall s oak 1; carve b on s by c;");
+        y.pass(29);
+        Check.same("worms", y.stall(0, 3), 29);
+        Check.same("quality", y.stall(0, 2), 5);
+        y.pass(1);
+        Check.same("eaten with just 30", y.stall(0, 2), 4);
     }
 
     private static void coins() {

@@ -120,6 +120,12 @@ public final class FactsTest {
             Check.same("bishop of day " + day, x.bishop(), due[day]);
             x.pass(1);
         }
+        ChoirStalls y = Check.taught("bishop late grim 1 from 6; bishop early grim 1 from 0; bishop mid grim 1 from 3;");
+        int[] mixed = {1, 1, 1, 2, 2, 2, 0, 0};
+        for (int day = 0; day < mixed.length; day++) {
+            Check.same("bishop of day " + day, y.bishop(), mixed[day]);
+            y.pass(1);
+        }
     }
 
     private static void worstAndPleasure() {

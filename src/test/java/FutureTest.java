@@ -49,8 +49,8 @@ public final class FutureTest {
                 Check.same("until " + stall + " " + what, days, reached(stall, what));
             }
         }
-        ChoirStalls y = Check.taught("beast b grim 1 fine 1; carver c skill 9 pace 1; stall s oak 1; stall t oak 9;"
-                + " carve b on s by c when day >= 199; carve b on t by c when day >= 200;");
+        ChoirStalls y = Check.taught("beast b grim 1 fine 1; carver c skill 9 pace 1 likes b; stall s oak 1;"
+                + " stall t oak 9; carve b on s by c when day >= 199; carve b on t by c when day >= 200;");
         Check.same("just within 200 days", y.until(0, 0), 200);
         Check.same("not within 200 days", y.until(1, 0), -1);
         Check.same("never", y.until(1, 2), -1);
@@ -59,7 +59,7 @@ public final class FutureTest {
         Check.same("is so now", y.until(0, 0), 0);
         Check.same("is so now", y.until(0, 1), 0);
         Check.same("1 worm a day since it was carved", y.until(0, 2), 29);
-        Check.same("tomorrow", y.until(1, 0), 2);
+        Check.same("tomorrow", y.until(1, 0), 1);
     }
 
     /** The same, by living through it. */
@@ -123,6 +123,13 @@ public final class FutureTest {
         ChoirStalls y = Check.taught("beast b grim 9 fine 1; carver c skill 9 pace 1; stall s oak 1;"
                 + " bishop p grim 1 from 0; carve b on s by c when damp > 2 and damp < 6;");
         Check.same("damp counts in tests", y.advise(5), 5);
+        ChoirStalls z = Check.taught("beast b grim 1 fine 1; carver c skill 9 pace 1; stall s oak 1;"
+                + " bishop p grim 1 from 0; carve b on s by c when damp = 0;");
+        Check.same("the least damp", z.advise(5), 0);
+        ChoirStalls w = Check.taught("beast b grim 1 fine 1; beast d grim 9 fine 1; carver c skill 9 pace 1;"
+                + " stall s oak 1; bishop p grim 1 from 0; carve d on s by c when damp = 0; carve b on s by c when damp = 4;"
+                + " carve d on s by c when damp = 7;");
+        Check.same("neither the first nor the last", w.advise(5), 4);
     }
 
     private static void spare() {
@@ -137,6 +144,10 @@ public final class FutureTest {
         Check.same("e has carved", x.carver(1, 4), 1);
         Check.same("the other one", Check.taught(two + "carve b on s by c;").spare(90), 1);
         Check.same("the first one", Check.taught(two + "carve b on s by e when day = 7;").spare(90), 0);
+        Check.same("the one in the middle", Check.taught("beast b grim 3 fine 1; beast d grim 9 fine 1;"
+                + " carver c skill 9 pace 1; carver e skill 9 pace 1; carver f skill 9 pace 1; stall s oak 1; stall t oak 1;"
+                + " stall u oak 1; bishop p grim 3 from 0; carve b on s by c; carve d on t by e; carve b on u by f;")
+                .spare(9), 1);
         Check.same("without carvers", Check.taught("stall s oak 1;").spare(90), -1);
     }
 

@@ -3,6 +3,9 @@ public final class LanguageTest {
     private static final String BASE =
             "beast b grim 1 fine 1; carver c skill 1 pace 1; stall s oak 1; bishop p grim 1 from 0; ";
 
+    private static final String TWICE = "beast b grim 1 fine 9; carver c skill 2 pace 1; stall s oak 9;"
+            + " bishop p grim 1 from 0; carve b on s by c; oil s when bears s b or rust s > 5;";
+
     public static void main(String[] args) {
         newObject();
         feedAndTrim();
@@ -79,6 +82,17 @@ public final class LanguageTest {
         Check.same("work is new", x.order(0, 4), 0);
         Check.same("no beast", x.stall(0, 1), -1);
         Check.same("nothing carved by", x.carver(0, 4), 0);
+        Check.same("no quality", x.stall(0, 2), 0);
+        Check.same("the same list", Check.teach(x, TWICE), 0);
+        x.pass(2);
+        Check.same("work", x.order(0, 4), 4);
+        Check.same("the same list twice", Check.teach(x, TWICE), 0);
+        Check.same("and once more", Check.teach(x, TWICE), 0);
+        Check.same("work is new", x.order(0, 4), 0);
+        Check.same("tests are anew", x.order(1, 5), 0);
+        Check.same("orders", x.count(6), 2);
+        Check.same("carvers", x.count(3), 1);
+        Check.same("bishops", x.count(5), 1);
         Check.same("an empty tape is a list", x.teach(), 0);
         Check.same("without stalls", x.count(4), 0);
     }
@@ -168,6 +182,7 @@ public final class LanguageTest {
         fits("oil s when not bears s b and not [squeaks s or min(day, -damp) <= max(coins, quality s)];");
         fits("oil s when worms s*2/3-rust s+1>=(day);");
         meaning();
+        choirInTests();
     }
 
     private static void meaning() {
@@ -203,6 +218,40 @@ public final class LanguageTest {
         holds("not [1 = 2 and 1 = 2]", 1);
         holds("not not 1 = 1", 1);
         holds("bears s b or squeaks s", 0);
+    }
+
+    /** Whether the test holds behind ten damp days in which c carved b on s, and nothing on t. */
+    private static void onTheWay(String test, int due) {
+        ChoirStalls x = Check.taught("beast a grim 1 fine 1; beast b grim 1 fine 1; carver c skill 9 pace 1; stall s oak 1;"
+                + " stall t oak 9; bishop p grim 1 from 6; carve b on s by c; oil t when day < -1 or day >= 0 and " + test
+                + " and day > 9;");
+        x.setDamp(5);
+        x.pass(9);
+        Check.same("the day is 9: " + test, x.order(1, 5), 0);
+        x.pass(1);
+        Check.same(test, x.order(1, 5), due);
+    }
+
+    private static void choirInTests() {
+        onTheWay("quality s = 26", 1);
+        onTheWay("quality t = 0", 1);
+        onTheWay("worms s = 20", 1);
+        onTheWay("worms t < 10", 1);
+        onTheWay("rust s = 10", 1);
+        onTheWay("coins = 8", 1);
+        onTheWay("damp = 5", 1);
+        onTheWay("bears s b", 1);
+        onTheWay("bears s a", 0);
+        onTheWay("bears t b", 0);
+        onTheWay("bears t a", 0);
+        onTheWay("squeaks s", 1);
+        onTheWay("not squeaks s", 0);
+        onTheWay("not bears s a", 1);
+        onTheWay("not bears s b", 0);
+        onTheWay("[bears s b and squeaks t and 1 <= 1 and 1 >= 1]", 1);
+        onTheWay("3 <= 2", 0);
+        onTheWay("2 >= 3", 0);
+        onTheWay("[bears s a or not bears s a]", 1);
     }
 
     private static String times(String text, int count) {
