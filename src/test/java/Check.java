@@ -1,11 +1,19 @@
+import java.io.IOException;
+import java.nio.file.Files;
+import java.nio.file.Path;
+
 /** Counts and prints answers that are not as due, and feeds texts. */
 final class Check {
     interface Call {
         Object answer();
     }
 
+    // With -Ddoc=../shared/DOC.md it is also looked up whether the document has each sentence word by word.
+    private static final String DOCUMENT = System.getProperty("doc");
+
     private static int done = 0;
     private static int wrong = 0;
+    private static String heading = "";
 
     private Check() {
     }
@@ -15,8 +23,32 @@ final class Check {
         if (!due.equals(got)) {
             wrong++;
             if (wrong <= 50) {
-                System.out.println(what + " answered " + got + ", due is " + due);
+                System.out.println(heading + what + " answered " + got + ", due is " + due);
             }
+        }
+    }
+
+    /** One sentence of the document and the test that holds it; what goes wrong in it is told with both. */
+    static void sentence(String where, String words, Runnable test) {
+        heading = where + " \"" + words + "\": ";
+        int before = done;
+        try {
+            test.run();
+        } catch (RuntimeException e) {
+            same("the test", e.toString(), "without an exception");
+        }
+        same("the test", done == before ? "checks nothing" : "checks", "checks");
+        if (DOCUMENT != null) {
+            same("the document", quotes(words), true);
+        }
+        heading = "";
+    }
+
+    private static boolean quotes(String words) {
+        try {
+            return Files.readString(Path.of(DOCUMENT)).replace("`", "").contains(words);
+        } catch (IOException e) {
+            throw new IllegalStateException(e);
         }
     }
 
@@ -36,6 +68,28 @@ final class Check {
         same(what, answerOf(call), due.getSimpleName());
         same(what + ", digest behind it", x.digest(), before);
         same(what + ", errorAt behind it", x.errorAt(), errorBefore);
+    }
+
+    /** What a row of answers is, from number 0 on. */
+    static void rows(String what, int[] due, java.util.function.IntUnaryOperator got) {
+        for (int i = 0; i < due.length; i++) {
+            same(what + " " + i, got.applyAsInt(i), due[i]);
+        }
+    }
+
+    /** Both have just the same told, on the same day, and go on alike; the tapes are read in the end. */
+    static void alike(String what, ChoirStalls x, ChoirStalls y) {
+        same(what + ": errorAt", x.errorAt(), y.errorAt());
+        for (int i = 0; i < 3; i++) {
+            same(what + ": digest " + i, x.digest(), y.digest());
+            same(what + ": mean " + i, x.mean(), y.mean());
+            same(what + ": pass " + i, x.pass(5), y.pass(5));
+        }
+        same(what + ": teach", x.teach(), y.teach());
+        same(what + ": errorAt behind teach", x.errorAt(), y.errorAt());
+        same(what + ": digest behind teach", x.digest(), y.digest());
+        same(what + ": pass behind teach", x.pass(9), y.pass(9));
+        same(what + ": digest in the end", x.digest(), y.digest());
     }
 
     static int wrongSoFar() {

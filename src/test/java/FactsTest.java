@@ -19,38 +19,32 @@ public final class FactsTest {
         Check.finish("FactsTest");
     }
 
-    private static void rows(String what, int[] due, java.util.function.IntUnaryOperator got) {
-        for (int i = 0; i < due.length; i++) {
-            Check.same(what + " " + i, got.applyAsInt(i), due[i]);
-        }
-    }
-
     private static void atFirst() {
         ChoirStalls x = Check.taught(LIST);
-        rows("count", new int[] {0, 3, 3, 3, 3, 4, 6, 0, 0, 0, 0, 0, 4, 0}, x::count);
-        rows("beast 1", new int[] {9, 9, 0}, i -> x.beast(1, i));
-        rows("beast 2", new int[] {0, 2, 0}, i -> x.beast(2, i));
-        rows("carver 0", new int[] {7, 1, 1, 2, 0}, i -> x.carver(0, i));
-        rows("carver 1", new int[] {4, 2, -1, 3, 0}, i -> x.carver(1, i));
-        rows("carver 2", new int[] {9, 3, 0, 1, 0}, i -> x.carver(2, i));
-        rows("stall 1", new int[] {9, -1, 0, 0, 0, 0, 0}, i -> x.stall(1, i));
-        rows("order 0", new int[] {0, 0, 2, 1, 0, 0}, i -> x.order(0, i));
-        rows("order 1", new int[] {0, 0, 0, 2, 0, 1}, i -> x.order(1, i));
-        rows("order 4", new int[] {1, 0, -1, -1, 0, 0}, i -> x.order(4, i));
-        rows("order 5", new int[] {1, 1, -1, -1, 0, 1}, i -> x.order(5, i));
+        Check.rows("count", new int[] {0, 3, 3, 3, 3, 4, 6, 0, 0, 0, 0, 0, 4, 0}, x::count);
+        Check.rows("beast 1", new int[] {9, 9, 0}, i -> x.beast(1, i));
+        Check.rows("beast 2", new int[] {0, 2, 0}, i -> x.beast(2, i));
+        Check.rows("carver 0", new int[] {7, 1, 1, 2, 0}, i -> x.carver(0, i));
+        Check.rows("carver 1", new int[] {4, 2, -1, 3, 0}, i -> x.carver(1, i));
+        Check.rows("carver 2", new int[] {9, 3, 0, 1, 0}, i -> x.carver(2, i));
+        Check.rows("stall 1", new int[] {9, -1, 0, 0, 0, 0, 0}, i -> x.stall(1, i));
+        Check.rows("order 0", new int[] {0, 0, 2, 1, 0, 0}, i -> x.order(0, i));
+        Check.rows("order 1", new int[] {0, 0, 0, 2, 0, 1}, i -> x.order(1, i));
+        Check.rows("order 4", new int[] {1, 0, -1, -1, 0, 0}, i -> x.order(4, i));
+        Check.rows("order 5", new int[] {1, 1, -1, -1, 0, 1}, i -> x.order(5, i));
         Check.same("tape", x.feed(0, 0, 0, 0, 0) + x.count(13), 40);
     }
 
     private static void onTheWay() {
         ChoirStalls x = Check.taught(LIST);
         Check.same("joan carves the owl on the first day", x.pass(1), 1);
-        rows("stall 0", new int[] {3, 0, 29, 1, 1, 0, 0}, i -> x.stall(0, i));
-        rows("stall 1", new int[] {9, -1, 0, 0, 1, 0, 0}, i -> x.stall(1, i));
-        rows("order 1", new int[] {0, 0, 0, 2, 0, 0}, i -> x.order(1, i));
-        rows("order 2", new int[] {0, 1, 1, 0, 14, 1}, i -> x.order(2, i));
-        rows("order 3", new int[] {0, 2, 2, 1, 4, 1}, i -> x.order(3, i));
-        rows("carver 2", new int[] {9, 3, 0, -1, 1}, i -> x.carver(2, i));
-        rows("count", new int[] {1, 3, 3, 3, 3, 4, 6, 1, 0, 2, 0, 1, 3, 0}, x::count);
+        Check.rows("stall 0", new int[] {3, 0, 29, 1, 1, 0, 0}, i -> x.stall(0, i));
+        Check.rows("stall 1", new int[] {9, -1, 0, 0, 1, 0, 0}, i -> x.stall(1, i));
+        Check.rows("order 1", new int[] {0, 0, 0, 2, 0, 0}, i -> x.order(1, i));
+        Check.rows("order 2", new int[] {0, 1, 1, 0, 14, 1}, i -> x.order(2, i));
+        Check.rows("order 3", new int[] {0, 2, 2, 1, 4, 1}, i -> x.order(3, i));
+        Check.rows("carver 2", new int[] {9, 3, 0, -1, 1}, i -> x.carver(2, i));
+        Check.rows("count", new int[] {1, 3, 3, 3, 3, 4, 6, 1, 0, 2, 0, 1, 3, 0}, x::count);
         Check.same("pass", x.pass(1), 0);
         Check.same("the bishop of day 2", x.bishop(), 1);
         Check.same("by how much a pleases", x.stall(0, 6), 29 - 2);
@@ -180,14 +174,14 @@ public final class FactsTest {
             all.append(i < 10 ? "carve b" + i % 8 + " on s" + i + " by c" + i % 5 + ";" : "oil s" + (i - 10) + ";");
         }
         ChoirStalls x = Check.taught(all.toString());
-        rows("count", new int[] {0, 3, 8, 5, 10, 6, 20, 0, 0, 0, 0, 0, 10, 0}, x::count);
+        Check.rows("count", new int[] {0, 3, 8, 5, 10, 6, 20, 0, 0, 0, 0, 0, 10, 0}, x::count);
         for (int i = 0; i < 20; i++) {
-            rows("order " + i, new int[] {i / 10, i % 10, i < 10 ? i % 8 : -1, i < 10 ? i % 5 : -1, 0, 1},
+            Check.rows("order " + i, new int[] {i / 10, i % 10, i < 10 ? i % 8 : -1, i < 10 ? i % 5 : -1, 0, 1},
                     orderOf(x, i));
         }
-        rows("beast 7", new int[] {7, 8, 0}, i -> x.beast(7, i));
-        rows("carver 4", new int[] {5, 1, 4, 4, 0}, i -> x.carver(4, i));
-        rows("stall 9", new int[] {1, -1, 0, 0, 0, 0, 0}, i -> x.stall(9, i));
+        Check.rows("beast 7", new int[] {7, 8, 0}, i -> x.beast(7, i));
+        Check.rows("carver 4", new int[] {5, 1, 4, 4, 0}, i -> x.carver(4, i));
+        Check.rows("stall 9", new int[] {1, -1, 0, 0, 0, 0, 0}, i -> x.stall(9, i));
         Check.same("the earliest bishop", x.pass(5) + x.bishop(), x.count(11) + 5);
     }
 

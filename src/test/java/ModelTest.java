@@ -7,6 +7,11 @@ public final class ModelTest {
     private static final int RUNS = Integer.getInteger("runs", 150);
     private static final int LISTS = Integer.getInteger("lists", 4000);
     private static final int FIRST_SEED = Integer.getInteger("seed", 1);
+    // Behind so many calls an object's answers are free.
+    private static final int MOST_CALLS = 512;
+    private static final int CALLS_OF_STEP = 2;
+    // Beside those of feed: trim, teach, errorAt, digest.
+    private static final int CALLS_OF_TEACH = 4;
 
     private final Random random;
     private final List<String> words = new ArrayList<>();
@@ -260,14 +265,22 @@ public final class ModelTest {
         Model m = new Model();
         int before = Check.wrongSoFar();
         String where = "run " + seed;
-        for (int call = 0; call < 250 && Check.wrongSoFar() == before; call++) {
+        int left = MOST_CALLS - 1;
+        for (int call = 0; left > CALLS_OF_STEP && Check.wrongSoFar() == before; call++) {
             if (call == 0 || chance(2)) {
                 makeList(chance(20));
-                compareTeach(x, m, text(), where);
+                String text = text();
+                int calls = CALLS_OF_TEACH + (text.length() + 19) / 20;
+                if (left > CALLS_OF_STEP + calls) {
+                    compareTeach(x, m, text, where);
+                    left -= calls;
+                }
             }
             compareCall(x, m, where + " call " + call);
+            left--;
             if (call % 4 == 0) {
                 Check.same(where + " digest", x.digest(), m.digest());
+                left--;
             }
         }
         // Answers of NaN would not be equal to themselves by ==, but are by equals.
