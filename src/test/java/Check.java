@@ -11,11 +11,35 @@ final class Check {
     // With -Ddoc=../shared/DOC.md it is also looked up whether the document has each sentence word by word.
     private static final String DOCUMENT = System.getProperty("doc");
 
+    // Far more than any test takes: one that goes on for ever has failed.
+    private static final int MOST_SECONDS = 120;
+
     private static int done = 0;
     private static int wrong = 0;
     private static String heading = "";
 
+    /** Ends the test of one sentence at its first wrong answer. */
+    private static final class Wrong extends Error {
+        private static final long serialVersionUID = 1L;
+    }
+
+    static {
+        Thread watch = new Thread(Check::endInTime);
+        watch.setDaemon(true);
+        watch.start();
+    }
+
     private Check() {
+    }
+
+    private static void endInTime() {
+        try {
+            Thread.sleep(MOST_SECONDS * 1000L);
+        } catch (InterruptedException e) {
+            return;
+        }
+        System.out.println(heading + "the test takes too long");
+        Runtime.getRuntime().halt(1);
     }
 
     static void same(String what, Object got, Object due) {
@@ -24,6 +48,9 @@ final class Check {
             wrong++;
             if (wrong <= 50) {
                 System.out.println(heading + what + " answered " + got + ", due is " + due);
+            }
+            if (!heading.isEmpty()) {
+                throw new Wrong();
             }
         }
     }
@@ -34,12 +61,15 @@ final class Check {
         int before = done;
         try {
             test.run();
+            same("the test", done == before ? "checks nothing" : "checks", "checks");
+            if (DOCUMENT != null) {
+                same("the document", quotes(words), true);
+            }
+        } catch (Wrong e) {
+            // It is counted and printed.
         } catch (RuntimeException e) {
-            same("the test", e.toString(), "without an exception");
-        }
-        same("the test", done == before ? "checks nothing" : "checks", "checks");
-        if (DOCUMENT != null) {
-            same("the document", quotes(words), true);
+            wrong++;
+            System.out.println(heading + "the test threw " + e);
         }
         heading = "";
     }
@@ -65,7 +95,12 @@ final class Check {
     static void refuses(ChoirStalls x, String what, Class<? extends RuntimeException> due, Call call) {
         long before = x.digest();
         int errorBefore = x.errorAt();
-        same(what, answerOf(call), due.getSimpleName());
+        Object answer = answerOf(call);
+        same(what, answer, due.getSimpleName());
+        if (!answer.equals(due.getSimpleName())) {
+            // The next one might be let through too, with days without end.
+            throw new Wrong();
+        }
         same(what + ", digest behind it", x.digest(), before);
         same(what + ", errorAt behind it", x.errorAt(), errorBefore);
     }
@@ -83,6 +118,7 @@ final class Check {
         for (int i = 0; i < 3; i++) {
             same(what + ": digest " + i, x.digest(), y.digest());
             same(what + ": mean " + i, x.mean(), y.mean());
+            foreseeAlike(what, x, y);
             same(what + ": pass " + i, x.pass(5), y.pass(5));
         }
         same(what + ": teach", x.teach(), y.teach());
@@ -90,6 +126,17 @@ final class Check {
         same(what + ": digest behind teach", x.digest(), y.digest());
         same(what + ": pass behind teach", x.pass(9), y.pass(9));
         same(what + ": digest in the end", x.digest(), y.digest());
+    }
+
+    private static void foreseeAlike(String what, ChoirStalls x, ChoirStalls y) {
+        for (int i = 0; i < 5; i++) {
+            same(what + ": foresee " + i, x.foresee(40, i), y.foresee(40, i));
+        }
+        for (int i = 0; i < 3 * x.count(4); i++) {
+            same(what + ": until " + i, x.until(i / 3, i % 3), y.until(i / 3, i % 3));
+        }
+        same(what + ": advise", x.advise(30), y.advise(30));
+        same(what + ": spare", x.spare(30), y.spare(30));
     }
 
     static int wrongSoFar() {

@@ -18,11 +18,14 @@ public final class ChoirEdgesTest {
         Check.sentence("Choir, bishop", "of those whose from is not greater than the day", ChoirEdgesTest::latestFrom);
         Check.sentence("Choir, bishop", "the one with the greatest from, of several the one with the greatest number",
                 ChoirEdgesTest::bishopsOfOneDay);
+        Check.sentence("Choir, bishop", "the one with the greatest from, of several the one with the greatest number",
+                ChoirEdgesTest::eachOrderOfBishops);
         Check.sentence("Choir, bishop", "there can be none", ChoirEdgesTest::noBishop);
         Check.sentence("Choir, pleasure", "for each stall that bears a beast its quality", ChoirEdgesTest::noneBears);
         Check.sentence("Choir, pleasure", "less twice by how much the grim of the beast and that of the bishop differ",
                 ChoirEdgesTest::differences);
         Check.sentence("Choir, pleasure", "less 3 for each stall that squeaks", ChoirEdgesTest::eachThatSqueaks);
+        Check.sentence("Choir, pleasure", "for each stall that bears a beast its quality", ChoirEdgesTest::tenStalls);
         Check.sentence("Choir, pleasure", "It can be less than 0.", ChoirEdgesTest::lessThanNothing);
         Check.sentence("Language", "Stalls whose numbers differ by 1 are neighbours.", ChoirEdgesTest::neighboursAtTheEnds);
         Check.finish("ChoirEdgesTest");
@@ -176,6 +179,24 @@ public final class ChoirEdgesTest {
         Check.same("of two alike", y.bishop(), 1);
     }
 
+    private static void eachOrderOfBishops() {
+        for (int froms = 0; froms < 64; froms++) {
+            int[] from = {froms / 16, froms / 4 % 4, froms % 4};
+            ChoirStalls x = Check.taught("bishop a grim 1 from " + from[0] + ";bishop b grim 1 from " + from[1] + ";bishop c grim 1 from "
+                    + from[2] + ";");
+            for (int day = 0; day < 5; day++) {
+                int due = -1;
+                for (int earliest = 0; earliest <= day; earliest++) {
+                    for (int bishop = 0; bishop < 3; bishop++) {
+                        due = from[bishop] == earliest ? bishop : due;
+                    }
+                }
+                Check.same("from " + from[0] + " " + from[1] + " " + from[2] + " on day " + day, x.bishop(), due);
+                x.pass(1);
+            }
+        }
+    }
+
     private static void noBishop() {
         Check.same("none told", Check.taught("stall s oak 1;").bishop(), -1);
         ChoirStalls x = Check.taught(ONE.replace("from 0", "from 2"));
@@ -223,6 +244,29 @@ public final class ChoirEdgesTest {
         Check.same("one without a beast", x.pleasure(0), 26 - 3);
         x.oil(2);
         Check.same("none", x.pleasure(0), 26);
+    }
+
+    /** As many stalls as there may be, one after the other carved; the first beast is as far from the bishop as it can be. */
+    private static void tenStalls() {
+        StringBuilder list = new StringBuilder("beast b grim 9 fine 1;beast d grim 1 fine 1;carver c skill 9 pace 1;bishop p grim 0 from 0;"
+                + "bishop q grim 9 from 500;");
+        for (int i = 0; i < 10; i++) {
+            list.append("stall s").append(i).append(" oak 1;carve ").append(i == 9 ? "b" : "d").append(" on s").append(i).append(" by c;");
+        }
+        ChoirStalls x = Check.taught(list.toString());
+        x.setDamp(0);
+        for (int stalls = 0; stalls < 10; stalls++) {
+            Check.same("p, with " + stalls, x.pleasure(0), stalls * 24);
+            Check.same("q, with " + stalls, x.pleasure(1), stalls * 10);
+            Check.same("worst of p, with " + stalls, x.worst(0), stalls == 0 ? -1 : 0);
+            Check.same("worst of q, with " + stalls, x.worst(1), stalls == 0 ? -1 : 0);
+            x.pass(1);
+        }
+        Check.same("p, with all", x.pleasure(0), 9 * 24 + 8);
+        Check.same("q, with all", x.pleasure(1), 9 * 10 + 26);
+        Check.same("worst of p, with all: the last", x.worst(0), 9);
+        Check.same("worst of q, with all: the first", x.worst(1), 0);
+        Check.same("mean", x.mean(), 26.0);
     }
 
     private static void lessThanNothing() {

@@ -33,6 +33,7 @@ public final class DayEdgesTest {
         Check.sentence("Day, 5", "If there is a bishop of the day", DayEdgesTest::bishopOfTheDay);
         Check.sentence("Day", "A day goes like this:", DayEdgesTest::coinsBehindRustAndWorms);
         Check.sentence("Day, 6", "The day is 1 greater.", DayEdgesTest::dayInTheSteps);
+        Check.sentence("Terms", "Time is told in days, from 0.", DayEdgesTest::dayInTheSteps);
         Check.finish("DayEdgesTest");
     }
 
@@ -368,7 +369,7 @@ public final class DayEdgesTest {
         x.pass(17);
         Check.same("99 worms", x.stall(0, 3), 99);
         Check.same("99 eat 1 a day too", x.stall(0, 2), 24 - 17);
-        ChoirStalls y = Check.taught("beast b grim 4 fine 1;carver c skill 9 pace 1;stall s oak 4;carve b on s by c;");
+        ChoirStalls y = Check.taught("beast d grim 4 fine 1;beast b grim 4 fine 1;carver c skill 9 pace 1;stall s oak 4;carve b on s by c;");
         y.setDamp(4);
         y.pass(31);
         Check.same("31 worms", y.stall(0, 3), 31);

@@ -45,6 +45,8 @@ public final class FactsEdgesTest {
         Check.sentence("Promise 13", "its squeaking counted with 3 less", FactsEdgesTest::worstThatSqueaks);
         Check.sentence("Promise 13", "-1 if none bears a beast", FactsEdgesTest::worstOfNone);
         Check.sentence("Promise 13", "the stall that bears a beast and pleases this one the least", FactsEdgesTest::worstThatBears);
+        Check.sentence("Not promised", "Nothing is promised beyond the answers and state changes described above",
+                FactsEdgesTest::askingChangesNothing);
         Check.finish("FactsEdgesTest");
     }
 
@@ -67,6 +69,32 @@ public final class FactsEdgesTest {
                 Object answer = Check.answerOf(() -> asked.answer(x, good));
                 Check.same(what + " " + number + " is answered", answer instanceof Integer, true);
             }
+        }
+    }
+
+    private static void askingChangesNothing() {
+        for (int days : new int[] {1, 6}) {
+            ChoirStalls x = Check.taught(LIST);
+            ChoirStalls y = Check.taught(LIST);
+            x.pass(days);
+            y.pass(days);
+            Check.write(x, "stall a oak 1;");
+            Check.write(y, "stall a oak 1;");
+            int[] ends = {14, 3, 5, 7, 6, 5, 5};
+            Asked[] all = {ChoirStalls::count, (z, i) -> z.beast(1, i), (z, i) -> z.carver(2, i), (z, i) -> z.stall(0, i),
+                (z, i) -> z.order(2, i), ChoirStalls::pleasure, ChoirStalls::worst};
+            for (int i = 0; i < all.length; i++) {
+                for (int what = 0; what < ends[i]; what++) {
+                    int asked = what;
+                    Asked ask = all[i];
+                    Check.same("it is answered", Check.answerOf(() -> ask.answer(x, asked)) instanceof Integer, true);
+                }
+            }
+            x.bishop();
+            x.mean();
+            x.errorAt();
+            x.digest();
+            Check.alike("asked or not", x, y);
         }
     }
 

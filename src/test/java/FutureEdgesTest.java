@@ -283,6 +283,8 @@ public final class FutureEdgesTest {
                 Check.same("alike from " + least + " to " + most, x.advise(3), most);
             }
         }
+        Check.same("no damp beyond them is tried", Check.taught(HEAD + "bishop p grim 4 from 0;carve b on s by c when damp<0 or damp>9;")
+                .advise(5), 9);
         changesNothing("advise", 3, (x, i) -> x.advise(i * 44 + 1));
     }
 
@@ -402,6 +404,13 @@ public final class FutureEdgesTest {
         Check.same("one", x.mean(), 26.0);
         x.strip(0);
         Check.same("none again", x.mean(), 0.0);
+        ChoirStalls z = Check.taught(HEAD + "carve d on s by c;carve b on t by c;");
+        z.pass(1);
+        Check.same("the second beast", z.mean(), 26.0);
+        z.pass(2);
+        Check.same("both", z.mean(), 22.0);
+        z.strip(1);
+        Check.same("the second beast again", z.mean(), 26.0);
         // A beast that worms have eaten up counts, with 0.
         ChoirStalls y = Check.taught("beast b grim 4 fine 1;carver c skill 1 pace 1;carver e skill 9 pace 1;stall s oak 1;stall t oak 9;"
                 + "stall u oak 9;carve b on s by c;carve b on u by e when day>99;");
@@ -462,8 +471,9 @@ public final class FutureEdgesTest {
         boolean negative = false;
         boolean positive = false;
         for (int day = 0; day < 200; day++) {
-            negative |= x.digest() < 0;
-            positive |= x.digest() > 0;
+            long digest = x.digest();
+            negative |= digest < 0;
+            positive |= digest > 0;
             x.pass(1);
         }
         Check.same("to both sides of 0", negative && positive, true);

@@ -23,6 +23,7 @@ public final class ReckoningEdgesTest {
         Check.sentence("Language, sum", "sum = product { ( \"+\" | \"-\" ) product }", ReckoningEdgesTest::chains);
         Check.sentence("Language, value", "\"-\" value", ReckoningEdgesTest::minusInFront);
         Check.sentence("Choir, tests", "and binds more than or, not more than and", ReckoningEdgesTest::binding);
+        Check.sentence("Choir, tests", "and binds more than or, not more than and", ReckoningEdgesTest::eachSingleJoined);
         Check.sentence("Choir, tests", "Both sides of and and or are reckoned", ReckoningEdgesTest::bothSides);
         Check.sentence("Choir, tests", "In tests and sums day is the day, damp the damp, coins the coins,"
                 + " quality, worms and rust those of a stall", ReckoningEdgesTest::atFirst);
@@ -132,6 +133,37 @@ public final class ReckoningEdgesTest {
         holdNot("1=2 or 1=1 and 1=2", "[1=1 or 1=1] and 1=2", "1=2 and [1=1 or 1=1]", "1=1 and 1=2 or 1=2", "1=2 or 1=2 or 1=2");
         hold("not 1=2 or 1=1", "not 1=1 or 1=1", "not [1=1 and 1=2]", "not not 1=1", "not 1=2 and 1=1", "not [1=2 or 1=2]");
         holdNot("not 1=2 and 1=2", "not [1=1 or 1=2]", "not not 1=2", "not 1=1 and 1=2", "not 1=1 or 1=2", "not not not 1=1");
+    }
+
+    /** Each kind of single test, as it holds and as it does not, with not, and, or: behind a day on which s was carved. */
+    private static void eachSingleJoined() {
+        String[] holding = {"1<2", "2>1", "1=1", "1<=1", "1>=1", "bears s b", "squeaks t", "[1=1]", "not 1=2", "not bears s d", "not squeaks s"};
+        String[] others = {"2<1", "1>2", "1=2", "2<=1", "1>=2", "bears s d", "squeaks s", "[1=2]", "not 1=1", "not bears s b", "not squeaks t"};
+        for (String test : holding) {
+            joined(test, "1=1", new int[] {1, 0, 1, 1, 1, 1, 0});
+            joined(test, "1=2", new int[] {1, 0, 0, 0, 1, 1, 0});
+            joined(test, "bears s b", new int[] {1, 0, 1, 1, 1, 1, 0});
+        }
+        for (String test : others) {
+            joined(test, "1=1", new int[] {0, 1, 0, 0, 1, 1, 1});
+            joined(test, "1=2", new int[] {0, 1, 0, 0, 0, 0, 1});
+            joined(test, "bears s b", new int[] {0, 1, 0, 0, 1, 1, 1});
+        }
+    }
+
+    private static void joined(String test, String other, int[] due) {
+        String[] tests = {test, "not " + test, test + " and " + other, other + " and " + test, test + " or " + other,
+            other + " or " + test, "not [" + test + "]"};
+        StringBuilder list = new StringBuilder("beast b grim 1 fine 1;beast d grim 1 fine 1;carver c skill 9 pace 1;stall s oak 1;"
+                + "stall t oak 1;carve b on s by c when day=0;");
+        for (String each : tests) {
+            list.append("oil s when ").append(each).append(";");
+        }
+        ChoirStalls x = Check.taught(list.toString());
+        x.setDamp(4);
+        x.pass(8);
+        x.oil(0);
+        Check.rows("of " + test + " with " + other, due, i -> x.order(i + 1, 5));
     }
 
     private static void bothSides() {

@@ -1,10 +1,10 @@
-import java.util.function.Consumer;
-
 /** A refused call changes nothing: an object with one goes on just as its twin without it, tape and all. */
 public final class RefusedTest {
     private static final Class<IndexOutOfBoundsException> NONE = IndexOutOfBoundsException.class;
     private static final Class<IllegalArgumentException> NOT_SO = IllegalArgumentException.class;
     private static final Class<IllegalStateException> NOT_NOW = IllegalStateException.class;
+
+    private static final String SENTENCE = "A method that throws an exception changes nothing.";
 
     private static final String LIST = "beast b grim 4 fine 1;beast m grim 9 fine 3;carver c skill 9 pace 1;carver e skill 5 pace 2 likes m;"
             + "stall s oak 1;stall t oak 9;stall u oak 4;bishop p grim 3 from 0;bishop q grim 8 from 20;carve b on s by c when worms s<50;"
@@ -16,54 +16,50 @@ public final class RefusedTest {
     /** How the twins have come to be, ahead of the refused call. */
     private static final int[] DAYS = {0, 1, 9, 45};
 
+    private static final int[] NO_DAYS = {0, -1, 121, Integer.MIN_VALUE, Integer.MAX_VALUE};
+    private static final int[] NO_SUCH = {-1, 20, Integer.MIN_VALUE, Integer.MAX_VALUE};
+
+    private interface Refused {
+        Object by(ChoirStalls x, int i);
+    }
+
     public static void main(String[] args) {
-        each("feed", 1981, NOT_NOW, x -> x.feed(-1, -1, -1, -1, -1));
-        each("feed", 2000, NOT_NOW, x -> x.feed(0, 0, 0, 0, 0));
-        for (int n : new int[] {-1, Integer.MIN_VALUE, 501, 2000, Integer.MAX_VALUE}) {
-            each("trim " + n, 500, NOT_SO, x -> x.trim(n));
-        }
-        for (int i : new int[] {-1, Integer.MIN_VALUE, 20, Integer.MAX_VALUE}) {
-            asked(i);
-            each("setDamp " + i, 300, NOT_SO, x -> x.setDamp(i));
-            each("oil " + i, 300, NONE, x -> x.oil(i));
-            each("smoke " + i, 300, NONE, x -> x.smoke(i));
-            each("strip " + i, 300, NONE, x -> x.strip(i));
-        }
-        each("setDamp 10", 300, NOT_SO, x -> x.setDamp(10));
-        each("oil 3", 300, NONE, x -> x.oil(3));
-        each("smoke 3", 300, NONE, x -> x.smoke(3));
-        each("strip 3", 300, NONE, x -> x.strip(3));
-        each("strip of none", 300, NOT_NOW, x -> x.strip(1));
-        refused("smoke without a coin", 300, 0, NOT_NOW, x -> x.smoke(0));
-        for (int days : new int[] {0, -1, 121, Integer.MIN_VALUE, Integer.MAX_VALUE}) {
-            each("pass " + days, 300, NOT_SO, x -> x.pass(days));
-            each("foresee " + days, 300, NOT_SO, x -> x.foresee(days, 0));
-            each("foresee " + days + ", and what", 300, NOT_SO, x -> x.foresee(days, 5));
-        }
-        for (int days : new int[] {0, 91, Integer.MIN_VALUE, Integer.MAX_VALUE}) {
-            each("advise " + days, 300, NOT_SO, x -> x.advise(days));
-            each("spare " + days, 300, NOT_SO, x -> x.spare(days));
-        }
+        refuse("feed of a tape that is nearly full", 1981, NOT_NOW, (x, i) -> x.feed(i, i, i, i, i), -1);
+        refuse("feed of a full tape", 2000, NOT_NOW, (x, i) -> x.feed(i, i, i, i, i), 0x20202020);
+        refuse("trim", 500, NOT_SO, (x, n) -> x.trim(n), -1, 501, 2000, Integer.MIN_VALUE, Integer.MAX_VALUE);
+        refuse("count", 300, NONE, ChoirStalls::count, NO_SUCH);
+        refuse("beast", 300, NONE, (x, i) -> x.beast(i, 0), NO_SUCH);
+        refuse("carver", 300, NONE, (x, i) -> x.carver(i, 3), NO_SUCH);
+        refuse("stall", 300, NONE, (x, i) -> x.stall(i, 6), NO_SUCH);
+        refuse("order", 300, NONE, (x, i) -> x.order(i, 5), NO_SUCH);
+        refuse("pleasure", 300, NONE, ChoirStalls::pleasure, NO_SUCH);
+        refuse("worst", 300, NONE, ChoirStalls::worst, NO_SUCH);
+        refuse("setDamp", 300, NOT_SO, ChoirStalls::setDamp, -1, 10, Integer.MIN_VALUE, Integer.MAX_VALUE);
+        refuse("oil", 300, NONE, ChoirStalls::oil, -1, 3, Integer.MIN_VALUE, Integer.MAX_VALUE);
+        refuse("smoke", 300, NONE, ChoirStalls::smoke, -1, 3, Integer.MIN_VALUE, Integer.MAX_VALUE);
+        refuse("strip", 300, NONE, ChoirStalls::strip, -1, 3, Integer.MIN_VALUE, Integer.MAX_VALUE);
+        refuse("strip of no beast", 300, NOT_NOW, ChoirStalls::strip, 1);
+        Check.sentence("Choir", SENTENCE, () -> refused("smoke without a coin", 300, 0, NOT_NOW, ChoirStalls::smoke, 0));
+        refuse("pass", 300, NOT_SO, ChoirStalls::pass, NO_DAYS);
+        refuse("until", 300, NONE, (x, i) -> x.until(i, 0), NO_SUCH);
+        refuse("until what", 300, NONE, (x, i) -> x.until(0, i), NO_SUCH);
+        refuse("foresee", 300, NOT_SO, (x, days) -> x.foresee(days, 0), NO_DAYS);
+        refuse("foresee both", 300, NOT_SO, (x, days) -> x.foresee(days, 5), NO_DAYS);
+        refuse("foresee what", 300, NONE, (x, i) -> x.foresee(60, i), NO_SUCH);
+        refuse("advise", 300, NOT_SO, ChoirStalls::advise, 0, 91, Integer.MIN_VALUE, Integer.MAX_VALUE);
+        refuse("spare", 300, NOT_SO, ChoirStalls::spare, 0, 91, Integer.MIN_VALUE, Integer.MAX_VALUE);
         Check.finish("RefusedTest");
     }
 
-    private static void asked(int i) {
-        each("count " + i, 300, NONE, x -> x.count(i));
-        each("beast " + i, 300, NONE, x -> x.beast(i, 0));
-        each("carver " + i, 300, NONE, x -> x.carver(i, 3));
-        each("stall " + i, 300, NONE, x -> x.stall(i, 6));
-        each("order " + i, 300, NONE, x -> x.order(i, 5));
-        each("pleasure " + i, 300, NONE, x -> x.pleasure(i));
-        each("worst " + i, 300, NONE, x -> x.worst(i));
-        each("until " + i, 300, NONE, x -> x.until(i, 0));
-        each("until what " + i, 300, NONE, x -> x.until(0, i));
-        each("foresee what " + i, 300, NONE, x -> x.foresee(60, i));
-    }
-
-    private static void each(String what, int bytes, Class<? extends RuntimeException> due, Consumer<ChoirStalls> call) {
-        for (int days : DAYS) {
-            refused(what, bytes, days, due, call);
-        }
+    /** Each of these numbers is refused, on each of some days. */
+    private static void refuse(String what, int bytes, Class<? extends RuntimeException> due, Refused call, int... numbers) {
+        Check.sentence("Choir", SENTENCE, () -> {
+            for (int number : numbers) {
+                for (int days : DAYS) {
+                    refused(what + " " + number, bytes, days, due, call, number);
+                }
+            }
+        });
     }
 
     private static ChoirStalls twin(int days, int bytes) {
@@ -78,16 +74,10 @@ public final class RefusedTest {
         return x;
     }
 
-    private static void refused(String what, int bytes, int days, Class<? extends RuntimeException> due, Consumer<ChoirStalls> call) {
-        Check.sentence("Choir", "A method that throws an exception changes nothing.", () -> {
-            ChoirStalls x = twin(days, bytes);
-            ChoirStalls y = twin(days, bytes);
-            Object thrown = Check.answerOf(() -> {
-                call.accept(x);
-                return "nothing";
-            });
-            Check.same(what, thrown, due.getSimpleName());
-            Check.alike(what + " on day " + days, x, y);
-        });
+    private static void refused(String what, int bytes, int days, Class<? extends RuntimeException> due, Refused call, int number) {
+        ChoirStalls x = twin(days, bytes);
+        ChoirStalls y = twin(days, bytes);
+        Check.same(what, Check.answerOf(() -> call.by(x, number)), due.getSimpleName());
+        Check.alike(what + " on day " + days, x, y);
     }
 }

@@ -10,6 +10,7 @@ public final class TapeEdgesTest {
         Check.sentence("Promise 1", "Creates a choir without stalls, on the day 0.", TapeEdgesTest::nothingIsThere);
         Check.sentence("Promise 1", "Creates a choir without stalls, on the day 0.", TapeEdgesTest::objectsOfTheirOwn);
         Check.sentence("What it is", "An object is used for at most 512 calls after it has been made", TapeEdgesTest::theLastCall);
+        Check.sentence("Language", "The tape is a row of at most 2000 bytes, at first empty", TapeEdgesTest::wholeTape);
         Check.sentence("Promise 2", "Appends twenty bytes to the tape: the four bytes of each number, the highest one first.",
                 TapeEdgesTest::bytesOfNumbers);
         Check.sentence("Promise 2", "Returns the number of bytes of the tape.", TapeEdgesTest::bytesOfTheTape);
@@ -22,6 +23,8 @@ public final class TapeEdgesTest {
         Check.sentence("Promise 4", "in the place of all that was told before; there are no coins then, and what was carved in all"
                 + " begins with 0; the day and the damp stay", TapeEdgesTest::anotherList);
         Check.sentence("Promise 4", "in the place of all that was told before", TapeEdgesTest::lessThanBefore);
+        Check.sentence("Promise 4", "in the place of all that was told before", TapeEdgesTest::manyListsInARow);
+        Check.sentence("Promise 4", "in the place of all that was told before", TapeEdgesTest::oneSortAlone);
         Check.sentence("Promise 4", "If it has an error, all stays (but the tape is empty).", TapeEdgesTest::allStays);
         Check.sentence("Promise 4", "Returns 0, or the error, 1 to 5.", TapeEdgesTest::eachError);
         Check.sentence("Promise 5", "-1 if it had none, or there was none", TapeEdgesTest::noError);
@@ -103,6 +106,22 @@ public final class TapeEdgesTest {
         }
         Check.same("errorAt by call 511", z.errorAt(), 4);
         Check.same("feed by call 512", z.feed(0, 0, 0, 0, 0), 20);
+    }
+
+    private static void wholeTape() {
+        ChoirStalls x = new ChoirStalls();
+        Check.same("bytes at first", x.count(13), 0);
+        Check.same("trim of nothing", x.trim(0), 0);
+        Check.same("teach of nothing", x.teach(), 0);
+        String list = "stall s oak 1;" + " ".repeat(1972) + "stall t oak 9;";
+        Check.same("its bytes", list.length(), 2000);
+        Check.write(x, list);
+        Check.same("bytes", x.count(13), 2000);
+        Check.same("teach of all", x.teach(), 0);
+        Check.same("the last line is told", x.stall(1, 0), 9);
+        Check.same("bytes behind it", x.count(13), 0);
+        Check.same("the last byte counts", Check.teach(x, list.substring(0, 1999) + "?"), 1);
+        Check.same("its place", x.errorAt(), 1999);
     }
 
     /** Twenty bytes, one of them with an error just there. */
@@ -246,6 +265,12 @@ public final class TapeEdgesTest {
     }
 
     private static void anotherList() {
+        ChoirStalls early = Check.taught(LIST);
+        early.pass(3);
+        Check.same("quality ahead", early.stall(0, 2), 26);
+        Check.same("the same list", Check.teach(early, LIST), 0);
+        Check.rows("stall 0", new int[] {1, -1, 0, 0, 0, 0, 0}, i -> early.stall(0, i));
+        Check.same("mean", early.mean(), 0.0);
         ChoirStalls x = Check.taught(LIST);
         x.setDamp(7);
         x.pass(50);
@@ -283,6 +308,42 @@ public final class TapeEdgesTest {
         Check.refuses(x, "no bishop", IndexOutOfBoundsException.class, () -> x.worst(0));
         Check.same("no test", x.order(0, 5), 1);
         Check.same("nothing is carved", x.pass(30), 0);
+    }
+
+    /** Long lists, good and wrong, one after the other: nothing of them is left in the next. */
+    private static void manyListsInARow() {
+        String longest = "stall s oak 1;stall t oak 1;oil t;oil t;oil t;oil s when 1=1" + " and 1=1".repeat(88) + ";";
+        ChoirStalls x = new ChoirStalls();
+        for (int i = 0; i < 3; i++) {
+            Check.same("a long list", Check.teach(x, longest), 0);
+            Check.same("its test holds", x.order(3, 5), 1);
+            Check.same("a long list that does not hold", Check.teach(x, longest.replace("1=1;", "1=2;")), 0);
+            Check.same("its test holds not", x.order(3, 5), 0);
+            Check.same("with an error", Check.teach(x, longest + "oil u;"), 3);
+            Check.same("the test of before", x.order(3, 5), 0);
+        }
+        Check.same("a short list", Check.teach(x, "stall s oak 1;stall t oak 1;oil s;"), 0);
+        ChoirStalls y = Check.taught("stall s oak 1;stall t oak 1;oil s;");
+        x.pass(9);
+        y.pass(9);
+        Check.same("goes as on a new object", x.digest(), y.digest());
+    }
+
+    private static void oneSortAlone() {
+        String[] lists = {"beast b grim 9 fine 9;", "carver c skill 9 pace 1;", "stall s oak 1;", "bishop p grim 9 from 0;",
+            "carver c skill 9 pace 1;stall s oak 1;bishop p grim 9 from 0;", "beast b grim 9 fine 1;carver c skill 9 pace 1 likes b;"};
+        for (String list : lists) {
+            ChoirStalls x = Check.taught(list);
+            Check.same("nothing is carved with " + list, x.pass(120), 0);
+            Check.same("in all", x.count(11), 0);
+            Check.same("no coins", x.count(10), 0);
+            // Behind a list in which all of it is told, twice.
+            ChoirStalls y = Check.taught(LIST);
+            Check.same("again", Check.teach(y, LIST), 0);
+            Check.same("then", Check.teach(y, list), 0);
+            y.pass(120);
+            Check.same("as on a new object", y.digest(), x.digest());
+        }
     }
 
     private static final String[] WITH_ERRORS = {"stall z oak 1;carve", "beast a grim 1 fine 1;stall z oak 1;stall z oak 1;",

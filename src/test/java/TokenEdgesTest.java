@@ -12,6 +12,7 @@ public final class TokenEdgesTest {
         Check.sentence("Language", "A word: a letter a to z, followed by letters a to z and digits", TokenEdgesTest::lettersOfWords);
         Check.sentence("Language", "at most 10 bytes", TokenEdgesTest::longWords);
         Check.sentence("Language", "All other words are names.", TokenEdgesTest::namesApart);
+        Check.sentence("Language", "All other words are names.", TokenEdgesTest::eachNameOfItsOwn);
         Check.sentence("Language", "A number: 1 to 6 digits.", TokenEdgesTest::digits);
         Check.sentence("Language", "Symbols: ( ) [ ] ; , + - * / < > = <= >=", TokenEdgesTest::symbols);
         Check.sentence("Language", "a byte with which no token begins", TokenEdgesTest::eachByteBehindAName);
@@ -158,6 +159,24 @@ public final class TokenEdgesTest {
         error("stall a oak 1;oil a1;", 3, 18);
         error("stall a1 oak 1;oil a;", 3, 19);
         error("stall abcdefghij oak 1;oil abcdefghii;", 3, 27);
+    }
+
+    /** Each two of many words of two bytes are different names: they stand together in one list or more. */
+    private static void eachNameOfItsOwn() {
+        String all = "0123456789abcdefghijklmnopqrstuvwxyz";
+        StringBuilder names = new StringBuilder();
+        for (char first : "abcgz".toCharArray()) {
+            for (char second : all.toCharArray()) {
+                String name = "" + first + second;
+                names.append((" " + KEYWORDS + " ").contains(" " + name + " ") ? "" : "stall " + name + " oak 1;");
+            }
+        }
+        int five = 5 * "stall aa oak 1;".length();
+        for (int i = 0; i + five <= names.length(); i += five) {
+            for (int j = i + five; j + five <= names.length(); j += five) {
+                fits(names.substring(i, i + five) + names.substring(j, j + five));
+            }
+        }
     }
 
     private static void digits() {
