@@ -351,6 +351,11 @@ public final class FutureEdgesTest {
         }
         ChoirStalls x = Check.taught(list.replace("#;", "c;carve b on s by e;carve b on s by f;"));
         Check.same("each can be replaced", x.spare(9), 0);
+        // Only h has carved, and has nothing left to do: none of them matters any more.
+        ChoirStalls y = Check.taught(list.replace("#", "h"));
+        y.pass(1);
+        Check.same("what was carved ahead of it does not count", y.spare(9), 0);
+        Check.same("h has carved", y.carver(4, 4), 1);
     }
 
     private static void spareWithoutCarvers() {
