@@ -19,7 +19,7 @@ public final class TokenEdgesTest {
         Check.sentence("Language", "a byte with which no token begins", TokenEdgesTest::eachByteAsAName);
         Check.sentence("Language", "a byte with which no token begins", TokenEdgesTest::eachByteBehindANumber);
         Check.sentence("Language", "a byte with which no token begins", TokenEdgesTest::eachByteAtTheEnd);
-        Check.sentence("Language", "The keywords are:", TokenEdgesTest::keywordsAreNoNames);
+        Check.sentence("Language", "The keywords are: " + KEYWORDS + ".", TokenEdgesTest::keywordsAreNoNames);
         Check.sentence("Language", "All other words are names.", TokenEdgesTest::wordsBesideKeywords);
         Check.finish("TokenEdgesTest");
     }
